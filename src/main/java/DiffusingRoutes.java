@@ -147,10 +147,7 @@ public final class DiffusingRoutes {
     }
 
     public int message(int a, int b, int k, int what) {
-        if (!isLink(a, b) || k < 0) {
-            return NONE;
-        }
-        int place = mail.find(a, b, k);
+        int place = isLink(a, b) ? mail.find(a, b, k) : NONE;
         if (place == NONE) {
             return NONE;
         }

@@ -12,6 +12,7 @@ public final class ModelTest {
     private final int routers;
     private final int dearest;
     private final int changesInTwenty;
+    private final int longRunsInThirty;
     private final DiffusingRoutes real;
     private final Model model;
     private int calls = 0;
@@ -22,6 +23,7 @@ public final class ModelTest {
         routers = 2 + random.nextInt(5);
         dearest = random.nextBoolean() ? 100 : 6;
         changesInTwenty = 1 + random.nextInt(12);
+        longRunsInThirty = random.nextInt(3) == 0 ? 25 : 1;
         real = new DiffusingRoutes(routers);
         model = new Model(routers);
     }
@@ -47,7 +49,7 @@ public final class ModelTest {
         switch (random.nextInt(9)) {
             case 0, 1, 2, 3 -> due("deliver", model.deliver(a, b), real.deliver(a, b), a, b);
             case 4 -> {
-                int n = random.nextInt(30) == 0 ? 200 : random.nextInt(8);
+                int n = random.nextInt(30) < longRunsInThirty ? 200 : random.nextInt(8);
                 due("run", model.run(n), real.run(n), n);
             }
             case 5 -> lookAtRoute(a, b);
