@@ -497,19 +497,19 @@ public final class DiffusingRoutes {
         }
 
         static int receiverOf(int letter) {
-            return letter >> RECEIVER_SHIFT & 7;
+            return (letter >> RECEIVER_SHIFT) & 7;
         }
 
         static int kindOf(int letter) {
-            return letter >> KIND_SHIFT & 3;
+            return (letter >> KIND_SHIFT) & 3;
         }
 
         static int targetOf(int letter) {
-            return letter >> TARGET_SHIFT & 7;
+            return (letter >> TARGET_SHIFT) & 7;
         }
 
         static int distanceOf(int letter) {
-            return letter & (1 << TARGET_SHIFT) - 1;
+            return letter & ((1 << TARGET_SHIFT) - 1);
         }
 
         int size() {
