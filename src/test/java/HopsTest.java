@@ -1,11 +1,15 @@
+import java.lang.reflect.Field;
+
 /** Promise 15 (hops). */
 public final class HopsTest {
     private HopsTest() {
     }
 
-    public static void main(String[] args) {
+    public static void main(String[] args) throws ReflectiveOperationException {
         hopsCountLinks();
+        hopsFromTheTarget();
         hopsNeedANextEverywhere();
+        hopsEndInARing();
         hopsWithWrongArguments();
         Check.finish();
     }
@@ -19,6 +23,12 @@ public final class HopsTest {
         }
     }
 
+    private static void hopsFromTheTarget() {
+        DiffusingRoutes x = new DiffusingRoutes(6);
+        Check.due("the first one, without links", 0, x.hops(0, 0));
+        Check.due("the last one, without links", 0, x.hops(5, 5));
+    }
+
     private static void hopsNeedANextEverywhere() {
         DiffusingRoutes x = Networks.line(1, 1, 1);
         x.cut(0, 1);
@@ -28,6 +38,40 @@ public final class HopsTest {
         Check.due("they end at 1", Check.NONE, x.hops(3, 0));
         Check.due("another target", 2, x.hops(3, 1));
         Check.due("a lone one", Check.NONE, x.hops(0, 3));
+    }
+
+    /**
+     * That no run of calls makes a ring is what the network is for; so the nexts are set from
+     * outside. With six routers the longest way has five links.
+     */
+    private static void hopsEndInARing() throws ReflectiveOperationException {
+        DiffusingRoutes x = Networks.line(1, 1, 1, 1, 1);
+        Check.due("all of them, no ring", 5, x.hops(5, 0));
+        setNext(x, 1, 0, 5);
+        Check.due("a ring of five", Check.NONE, x.hops(5, 0));
+        setNext(x, 1, 0, 2);
+        Check.due("a ring of two", Check.NONE, x.hops(1, 0));
+        Check.due("a way into a ring", Check.NONE, x.hops(5, 0));
+        Check.due("the target", 0, x.hops(0, 0));
+        Check.due("another target", 1, x.hops(0, 1));
+    }
+
+    private static void setNext(DiffusingRoutes x, int router, int target, int next)
+            throws ReflectiveOperationException {
+        Object[] routes = (Object[]) field(x, "routes").get(x);
+        for (Object route : routes) {
+            if (field(route, "router").getInt(route) == router
+                    && field(route, "target").getInt(route) == target) {
+                field(route, "next").setInt(route, next);
+            }
+        }
+        Check.due("the next that was set", next, x.next(router, target));
+    }
+
+    private static Field field(Object owner, String name) throws ReflectiveOperationException {
+        Field field = owner.getClass().getDeclaredField(name);
+        field.setAccessible(true);
+        return field;
     }
 
     private static void hopsWithWrongArguments() {

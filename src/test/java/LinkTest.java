@@ -7,8 +7,10 @@ public final class LinkTest {
         newObjectHasTwoToSixRouters();
         newObjectIsEmpty();
         connectCountsLinks();
-        connectRefusesWrongArguments();
+        connectNeedsTwoRouters();
+        connectNeedsACostOfOneToAHundred();
         costIsTheSameBothWays();
+        costWithoutLink();
         newLinkTellsWhatIsReached();
         newLinkTellsOfBusyRoutes();
         newLinkIsNotLookedAt();
@@ -16,6 +18,7 @@ public final class LinkTest {
         sameCostChangesNothing();
         changedCostGoesByNumbers();
         cutLosesTheMessagesOfItsLink();
+        cutKeepsTheOrderOfOtherMessages();
         cutRefusesWhatIsNoLink();
         cutGoesByNumbers();
         linkThatComesAgainIsNew();
@@ -61,18 +64,40 @@ public final class LinkTest {
         Check.due("after a cut", 3, x.connect(1, 2, 50));
     }
 
-    private static void connectRefusesWrongArguments() {
+    /** One link of cost 7 between the first two of three routers; both have told of themselves. */
+    private static DiffusingRoutes oneLink() {
         DiffusingRoutes x = new DiffusingRoutes(3);
         x.connect(0, 1, 7);
-        int[][] wrong = {{0, 3, 1}, {3, 0, 1}, {-1, 0, 1}, {0, -1, 1}, {1, 1, 1}, {5, 5, 1},
-            {0, 1, 0}, {0, 1, 101}, {0, 1, -1}, {0, 2, Integer.MIN_VALUE},
-            {Integer.MAX_VALUE, 0, 1}, {0, 2, Integer.MAX_VALUE}};
+        return x;
+    }
+
+    private static void isAsOneLink(String what, DiffusingRoutes x) {
+        Check.due(what + ", links as before", 1, x.total(5));
+        Check.due(what + ", cost as before", 7, x.cost(0, 1));
+        Check.due(what + ", messages as before", 2, x.total(3));
+    }
+
+    private static void connectNeedsTwoRouters() {
+        DiffusingRoutes x = oneLink();
+        int[][] wrong = {{0, 3}, {3, 0}, {-1, 0}, {0, -1}, {0, 0}, {1, 1}, {2, 2}, {3, 3}, {-1, -1},
+            {Integer.MAX_VALUE, 0}, {0, Integer.MIN_VALUE}};
         for (int[] row : wrong) {
-            Check.due("wrong connect", Check.NONE, x.connect(row[0], row[1], row[2]));
+            Check.due("no two routers", Check.NONE, x.connect(row[0], row[1], 1));
         }
-        Check.due("links as before", 1, x.total(5));
-        Check.due("cost as before", 7, x.cost(0, 1));
-        Check.due("messages as before", 2, x.total(3));
+        isAsOneLink("no two routers", x);
+    }
+
+    private static void connectNeedsACostOfOneToAHundred() {
+        DiffusingRoutes x = oneLink();
+        for (int cost : new int[] {0, 101, -1, Integer.MIN_VALUE, Integer.MAX_VALUE}) {
+            Check.due("a change to " + cost, Check.NONE, x.connect(0, 1, cost));
+            Check.due("a new link of " + cost, Check.NONE, x.connect(0, 2, cost));
+        }
+        isAsOneLink("no cost", x);
+        Check.due("the least cost, a change", 1, x.connect(0, 1, 1));
+        Check.due("the greatest cost, a change", 1, x.connect(0, 1, 100));
+        Check.due("the least cost, a new link", 2, x.connect(0, 2, 1));
+        Check.due("the greatest cost, a new link", 3, x.connect(1, 2, 100));
     }
 
     private static void costIsTheSameBothWays() {
@@ -82,12 +107,19 @@ public final class LinkTest {
         Check.due("least cost", 1, x.cost(0, 1));
         Check.due("least cost, back", 1, x.cost(1, 0));
         Check.due("greatest cost", 100, x.cost(2, 1));
-        Check.due("no link", Check.NONE, x.cost(0, 2));
-        Check.due("one router", Check.NONE, x.cost(1, 1));
-        int[][] wrong = {{-1, 0}, {0, -1}, {3, 0}, {0, 3}, {Integer.MIN_VALUE, Integer.MAX_VALUE}};
+        Check.due("greatest cost, back", 100, x.cost(1, 2));
+    }
+
+    private static void costWithoutLink() {
+        DiffusingRoutes x = oneLink();
+        int[][] wrong = {{0, 2}, {2, 0}, {1, 1}, {-1, 0}, {0, -1}, {3, 0}, {0, 3}, {3, 3},
+            {Integer.MIN_VALUE, Integer.MAX_VALUE}};
         for (int[] row : wrong) {
-            Check.due("no router", Check.NONE, x.cost(row[0], row[1]));
+            Check.due("no link", Check.NONE, x.cost(row[0], row[1]));
         }
+        x.cut(0, 1);
+        Check.due("no link any more", Check.NONE, x.cost(0, 1));
+        Check.due("no link any more, back", Check.NONE, x.cost(1, 0));
     }
 
     private static void newLinkTellsWhatIsReached() {
@@ -172,15 +204,38 @@ public final class LinkTest {
         Check.due("a link without messages", 0, Networks.line(3).cut(0, 1));
     }
 
+    /** 0, 1, 2 and 3 in a ring; what is lost stands before, between and after what stays. */
+    private static void cutKeepsTheOrderOfOtherMessages() {
+        DiffusingRoutes x = new DiffusingRoutes(4);
+        x.connect(0, 1, 1);
+        x.connect(1, 2, 2);
+        x.deliver(0, 1);
+        x.connect(2, 3, 3);
+        x.connect(0, 3, 4);
+        x.deliver(3, 0);
+        Check.message("1 has told 2", x, 1, 2, 1, Check.UPDATE, 0, 1);
+        Check.due("three are lost", 3, x.cut(1, 0));
+        Check.due("the others stay, and 1 asks 2", 8, x.total(3));
+        Check.message("before", x, 1, 2, 0, Check.UPDATE, 1, 0);
+        Check.message("between", x, 1, 2, 1, Check.UPDATE, 0, 1);
+        int[][] order = {{1, 2}, {2, 1}, {1, 2}, {2, 3}, {3, 2}, {0, 3}, {0, 3}, {1, 2}};
+        for (int[] link : order) {
+            int before = x.flight(link[0], link[1]);
+            x.run(1);
+            Check.due("by order", before - 1, x.flight(link[0], link[1]));
+        }
+    }
+
     private static void cutRefusesWhatIsNoLink() {
         DiffusingRoutes x = new DiffusingRoutes(3);
         x.connect(0, 1, 1);
-        int[][] wrong = {{0, 2}, {1, 1}, {-1, 0}, {0, -1}, {0, 3}, {3, 0},
+        int[][] wrong = {{0, 2}, {1, 1}, {-1, 0}, {0, -1}, {0, 3}, {3, 0}, {3, 3},
             {Integer.MAX_VALUE, Integer.MIN_VALUE}};
         for (int[] row : wrong) {
             Check.due("no link to cut", Check.NONE, x.cut(row[0], row[1]));
         }
         Check.due("nothing is lost", 2, x.total(3));
+        Check.due("the link stays", 1, x.total(5));
         x.cut(0, 1);
         Check.due("it is gone already", Check.NONE, x.cut(0, 1));
     }

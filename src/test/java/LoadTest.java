@@ -1,36 +1,114 @@
-/** The answer FULL of promises 2, 3 and 4, and where run() of promise 5 stops. */
+/** FULL of promises 2, 3 and 4, where run() of promise 5 stops, and a long life of an object. */
 public final class LoadTest {
     private LoadTest() {
     }
 
     public static void main(String[] args) {
-        linksChangeUpToAHundred();
+        connectIsFullAboveAHundred();
+        newLinkIsRefusedAboveAHundred();
+        cutIsFullAboveAHundred();
+        noneGoesBeforeFull();
+        lookingIsNeverFull();
         messagesComeUpToFourHundred();
         noneComesWithOneMore();
         runStopsAboveFourHundred();
+        moreThanAThousandMessagesComeInOrder();
         Check.finish();
     }
 
-    private static void linksChangeUpToAHundred() {
+    /** Two routers that have told each other of 50 changes, the last cost being 2. */
+    private static DiffusingRoutes hundred() {
         DiffusingRoutes x = Networks.line(1);
         for (int cost = 51; cost > 1; cost--) {
             x.connect(0, 1, cost);
         }
         Check.due("100", 100, x.total(3));
-        Check.due("with 100", 1, x.connect(1, 0, 60));
+        return x;
+    }
+
+    /** As above, with a third router, a last cost of 60, and one message more. */
+    private static DiffusingRoutes hundredAndOne() {
+        DiffusingRoutes x = Networks.settled(3, new int[] {0, 1, 1});
+        for (int cost = 51; cost > 1; cost--) {
+            x.connect(0, 1, cost);
+        }
+        x.connect(0, 1, 60);
         x.deliver(0, 1);
         Check.due("101", 101, x.total(3));
-        Check.due("with 101", Check.FULL, x.connect(0, 1, 3));
-        Check.due("wrong all the same", Check.NONE, x.connect(0, 2, 3));
-        Check.due("wrong cost all the same", Check.NONE, x.connect(0, 1, 0));
-        Check.due("nothing is done", 60, x.cost(0, 1));
-        Check.due("nothing is looked at", 60, x.distance(0, 1));
-        Check.due("cut with 101", Check.FULL, x.cut(0, 1));
-        Check.due("no link all the same", Check.NONE, x.cut(0, 0));
-        Check.due("nothing is lost", 101, x.total(3));
-        Check.due("messages still come", 1, x.deliver(1, 0));
-        Check.due("cut with 100", 100, x.cut(0, 1));
+        return x;
+    }
+
+    private static void isAsHundredAndOne(String what, DiffusingRoutes x) {
+        Check.due(what + ", messages as before", 101, x.total(3));
+        Check.due(what + ", nothing was sent", 106, x.total(0));
+        Check.due(what + ", links as before", 1, x.total(5));
+        Check.due(what + ", cost as before", 60, x.cost(0, 1));
+        Check.route(what, x, 0, 1, 60, 1, 1, 0);
+        Check.route(what, x, 1, 0, 60, 1, 0, 0);
+    }
+
+    private static void connectIsFullAboveAHundred() {
+        DiffusingRoutes x = hundred();
+        Check.due("with 100", 1, x.connect(1, 0, 60));
+        Check.due("it is done", 60, x.cost(0, 1));
+        Check.due("102", 102, x.total(3));
+        Check.due("with 102", Check.FULL, x.connect(1, 0, 60));
+        DiffusingRoutes y = hundredAndOne();
+        Check.due("with 101", Check.FULL, y.connect(0, 1, 3));
+        Check.due("with 101, the same cost", Check.FULL, y.connect(0, 1, 60));
+        isAsHundredAndOne("a change", y);
+    }
+
+    private static void newLinkIsRefusedAboveAHundred() {
+        DiffusingRoutes x = hundredAndOne();
+        Check.due("with 101", Check.FULL, x.connect(2, 0, 3));
+        isAsHundredAndOne("a new link", x);
+        Check.due("it has not come", Check.NONE, x.cost(0, 2));
+        Check.comes("one of 101", x, 0, 1, Check.UPDATE);
+        Check.due("with 100", 2, x.connect(2, 0, 3));
+    }
+
+    private static void cutIsFullAboveAHundred() {
+        DiffusingRoutes x = hundredAndOne();
+        Check.due("with 101", Check.FULL, x.cut(0, 1));
+        isAsHundredAndOne("cut", x);
+        Check.comes("one of 101", x, 1, 0, Check.UPDATE);
+        Check.due("with 100", 100, x.cut(0, 1));
         Check.due("all are lost", 0, x.total(3));
+        Check.due("no link is left", 0, x.total(5));
+    }
+
+    private static void noneGoesBeforeFull() {
+        DiffusingRoutes x = hundredAndOne();
+        Check.due("connect, no router", Check.NONE, x.connect(0, 3, 3));
+        Check.due("connect, the same", Check.NONE, x.connect(1, 1, 3));
+        Check.due("connect, no cost", Check.NONE, x.connect(0, 1, 0));
+        Check.due("cut, no link", Check.NONE, x.cut(0, 2));
+        Check.due("cut, no router", Check.NONE, x.cut(0, 3));
+        isAsHundredAndOne("none", x);
+        DiffusingRoutes y = flood();
+        y.run(200);
+        Check.due("deliver, more than 400", Check.FULL, y.deliver(0, 4));
+        Check.due("deliver, no link", Check.NONE, y.deliver(1, 5));
+        Check.due("deliver, no router", Check.NONE, y.deliver(0, 6));
+        Check.due("run, no such number", Check.NONE, y.run(201));
+        Check.due("run, no such number", Check.NONE, y.run(-1));
+    }
+
+    /** Above 400 all that does not change anything answers as ever. */
+    private static void lookingIsNeverFull() {
+        DiffusingRoutes x = flood();
+        x.run(200);
+        Check.due("402", 402, x.total(3));
+        Check.due("cost", 41, x.cost(5, 0));
+        Check.due("distance", 41, x.distance(0, 5));
+        Check.due("told", 0, x.told(0, 5, 5));
+        Check.due("waits", false, x.waits(0, 5, 1));
+        Check.due("flight", 0, x.flight(0, 5));
+        Check.due("hops", 1, x.hops(0, 5));
+        int last = x.flight(0, 4) - 1;
+        Check.message("the last one to 4", x, 0, 4, last, Check.UPDATE, 5, 41);
+        Check.due("message", Check.NONE, x.message(0, 4, last + 1, 0));
     }
 
     /**
@@ -100,5 +178,43 @@ public final class LoadTest {
         Check.due("none comes", 0, x.run(1));
         DiffusingRoutes y = flood();
         Check.due("all at once", 26, y.run(200));
+    }
+
+    /**
+     * Five routers round 0, each change of a link being told to all of them; some 90 messages are
+     * on links all the time, so that the thousandth is sent while others wait. These are some 450
+     * of the 512 calls of an object.
+     */
+    private static void moreThanAThousandMessagesComeInOrder() {
+        int[][] star = {{0, 1, 100}, {0, 2, 1}, {0, 3, 2}, {0, 4, 3}, {0, 5, 4}};
+        DiffusingRoutes x = Networks.settled(6, star);
+        Model model = new Model(6);
+        for (int[] link : star) {
+            model.connect(link[0], link[1], link[2]);
+        }
+        model.run(200);
+        for (int cost = 99; model.sent[0] < 1060; cost--) {
+            Check.due("connect", model.connect(0, 1, cost), x.connect(0, 1, cost));
+            int more = Math.max(0, model.onLinks.size() - 90);
+            Check.due("run", model.run(more), x.run(more));
+        }
+        Check.due("all that wait", 93, x.total(3));
+        for (int[] link : star) {
+            sameMessages(model, x, 0, link[1]);
+            sameMessages(model, x, link[1], 0);
+        }
+        Check.due("all come", model.run(200), x.run(200));
+        Check.due("all came", 0, x.total(3));
+        Check.due("the last change has come", x.cost(0, 1) + 4, x.distance(5, 1));
+    }
+
+    private static void sameMessages(Model model, DiffusingRoutes x, int a, int b) {
+        int k = 0;
+        for (Model.Message due : model.onLink(a, b)) {
+            Check.message("from " + a + " to " + b, x, a, b, k, due.kind().ordinal(),
+                    due.target(), due.distance());
+            k++;
+        }
+        Check.due("from " + a + " to " + b, k, x.flight(a, b));
     }
 }

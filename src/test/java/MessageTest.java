@@ -9,15 +9,22 @@ public final class MessageTest {
     public static void main(String[] args) {
         deliverTakesTheFirst();
         deliverAnswersTheKind();
+        deliverFromAnEmptyLink();
         deliverWithoutLink();
         runTakesWhatWasSentFirst();
+        runOfNothing();
         runStopsAtItsNumber();
+        runStopsWhenThereIsNone();
         runRefusesWrongNumbers();
         flightCountsOneWay();
+        flightWithoutLink();
         messageTellsItsParts();
-        messageWithWrongArguments();
+        messageWithoutLink();
+        messageBeforeTheFirstAndAfterTheLast();
+        messageHasThreeParts();
         totalCountsWhatWasSent();
         totalCountsWhatIs();
+        totalOfNothingElse();
         Check.finish();
     }
 
@@ -44,12 +51,19 @@ public final class MessageTest {
     private static void deliverAnswersTheKind() {
         DiffusingRoutes x = untoldLine();
         Check.due("an UPDATE", 1, x.deliver(0, 1));
-        Check.due("nothing", 0, x.deliver(0, 1));
         x.run(200);
         x.cut(0, 1);
         Check.due("a QUERY", 2, x.deliver(1, 2));
         Check.due("a QUERY back", 2, x.deliver(2, 1));
         Check.due("a REPLY", 3, x.deliver(1, 2));
+    }
+
+    private static void deliverFromAnEmptyLink() {
+        DiffusingRoutes x = untoldLine();
+        x.deliver(0, 1);
+        Check.due("none on it", 0, x.deliver(0, 1));
+        Check.due("those on others stay", 5, x.total(3));
+        Check.due("none on any", 0, Networks.line(3).deliver(1, 0));
     }
 
     private static void deliverWithoutLink() {
@@ -58,6 +72,8 @@ public final class MessageTest {
             Check.due("no link", Check.NONE, x.deliver(row[0], row[1]));
         }
         Check.due("nothing came", 4, x.total(3));
+        x.cut(0, 1);
+        Check.due("no link any more", Check.NONE, x.deliver(0, 1));
     }
 
     private static void runTakesWhatWasSentFirst() {
@@ -74,23 +90,44 @@ public final class MessageTest {
         Check.due("from 2 to 1", 3, x.distance(1, 2));
     }
 
-    private static void runStopsAtItsNumber() {
+    private static void runOfNothing() {
         DiffusingRoutes x = untoldLine();
         Check.due("none", 0, x.run(0));
         Check.due("all wait", 4, x.total(3));
+    }
+
+    /** Six routers, each linked with each, with more than 200 messages to come one by one. */
+    private static DiffusingRoutes mesh() {
+        DiffusingRoutes x = new DiffusingRoutes(6);
+        for (int a = 0; a < 5; a++) {
+            for (int b = a + 1; b < 6; b++) {
+                x.connect(a, b, 100 - 10 * a - b);
+                x.run(4);
+            }
+        }
+        return x;
+    }
+
+    private static void runStopsAtItsNumber() {
+        DiffusingRoutes x = mesh();
+        int came = x.total(0) - x.total(3);
+        Check.due("200 of more", 200, x.run(200));
+        Check.due("200 more came", came + 200, x.total(0) - x.total(3));
+        Check.due("there are more", true, x.total(3) > 0);
+        DiffusingRoutes y = mesh();
+        Check.due("199 of more", 199, y.run(199));
+        Check.due("one of more", 1, y.run(1));
+        Check.due("all the same", x.total(3), y.total(3));
+    }
+
+    private static void runStopsWhenThereIsNone() {
+        DiffusingRoutes x = untoldLine();
         int came = x.run(3) + x.run(200);
         Check.due("all that were sent", x.total(0), came);
         Check.due("none is left", 0, x.total(3));
         Check.due("none comes", 0, x.run(200));
-        DiffusingRoutes mesh = new DiffusingRoutes(6);
-        for (int a = 0; a < 5; a++) {
-            for (int b = a + 1; b < 6; b++) {
-                mesh.connect(a, b, 100 - 10 * a - b);
-                mesh.run(4);
-            }
-        }
-        Check.due("200 of more", 200, mesh.run(200));
-        Check.due("there are more", true, mesh.run(200) > 0);
+        Check.due("none comes", 0, x.run(1));
+        Check.due("without links", 0, new DiffusingRoutes(2).run(200));
     }
 
     private static void runRefusesWrongNumbers() {
@@ -99,6 +136,8 @@ public final class MessageTest {
             Check.due("run " + n, Check.NONE, x.run(n));
         }
         Check.due("nothing came", 4, x.total(3));
+        Check.due("run -1 without links", Check.NONE, new DiffusingRoutes(2).run(-1));
+        Check.due("run 201 without links", Check.NONE, new DiffusingRoutes(2).run(201));
     }
 
     private static void flightCountsOneWay() {
@@ -107,9 +146,17 @@ public final class MessageTest {
         x.deliver(0, 1);
         Check.due("none there", 0, x.flight(0, 1));
         Check.due("two back", 2, x.flight(1, 0));
+    }
+
+    private static void flightWithoutLink() {
+        DiffusingRoutes x = untoldLine();
         for (int[] row : NO_LINK) {
             Check.due("no link", Check.NONE, x.flight(row[0], row[1]));
         }
+        x.cut(0, 1);
+        Check.due("no link any more", Check.NONE, x.flight(0, 1));
+        x.connect(0, 1, 1);
+        Check.due("a link again, with what is told anew", 1, x.flight(0, 1));
     }
 
     private static void messageTellsItsParts() {
@@ -123,16 +170,30 @@ public final class MessageTest {
         Check.message("far", x, 1, 2, x.flight(1, 2) - 1, Check.QUERY, 0, Check.FAR);
     }
 
-    private static void messageWithWrongArguments() {
+    private static void messageWithoutLink() {
         DiffusingRoutes x = untoldLine();
         for (int[] row : NO_LINK) {
             Check.message("no link", x, row[0], row[1], 0, Check.NONE, Check.NONE, Check.NONE);
         }
-        for (int k : new int[] {-1, 1, 2, Integer.MIN_VALUE, Integer.MAX_VALUE}) {
-            Check.message("no message", x, 0, 1, k, Check.NONE, Check.NONE, Check.NONE);
+        x.cut(0, 1);
+        Check.message("no link any more", x, 0, 1, 0, Check.NONE, Check.NONE, Check.NONE);
+    }
+
+    private static void messageBeforeTheFirstAndAfterTheLast() {
+        DiffusingRoutes x = untoldLine();
+        x.deliver(0, 1);
+        Check.message("the first one", x, 1, 2, 0, Check.UPDATE, 1, 0);
+        Check.message("the last one", x, 1, 2, 1, Check.UPDATE, 0, 2);
+        for (int k : new int[] {-1, 2, 3, Integer.MIN_VALUE, Integer.MAX_VALUE}) {
+            Check.message("no message", x, 1, 2, k, Check.NONE, Check.NONE, Check.NONE);
         }
+        Check.message("an empty link", x, 0, 1, 0, Check.NONE, Check.NONE, Check.NONE);
+    }
+
+    private static void messageHasThreeParts() {
+        DiffusingRoutes x = untoldLine();
         for (int what : new int[] {-1, 3, Integer.MIN_VALUE, Integer.MAX_VALUE}) {
-            Check.due("no part", Check.NONE, x.message(0, 1, 0, what));
+            Check.due("no part " + what, Check.NONE, x.message(0, 1, 0, what));
         }
     }
 
@@ -164,6 +225,10 @@ public final class MessageTest {
         x.deliver(1, 2);
         Check.due("two busy routes", 2, x.total(4));
         Check.due("one link", 1, x.total(5));
+    }
+
+    private static void totalOfNothingElse() {
+        DiffusingRoutes x = untoldLine();
         for (int what : new int[] {-1, 6, Integer.MIN_VALUE, Integer.MAX_VALUE}) {
             Check.due("total " + what, Check.NONE, x.total(what));
         }

@@ -29,4 +29,32 @@ final class Networks {
             x.deliver(a, b);
         }
     }
+
+    /**
+     * 0 - 1 - 2 with a dear link from 0 to 2; then the link from 1 to 2 becomes dear. So 1 asks of
+     * 2, and 2 asks of 1; the messages of this change are on links.
+     */
+    static DiffusingRoutes dearTriangle() {
+        DiffusingRoutes x = settled(3, new int[] {0, 1, 1}, new int[] {1, 2, 1},
+                new int[] {0, 2, 5});
+        x.connect(1, 2, 9);
+        return x;
+    }
+
+    /** The ring 0 - 1 - 2 - 3 - 0; then 2 asks because of its link to 1, through which it went. */
+    static DiffusingRoutes askingRing() {
+        DiffusingRoutes x = settled(4, new int[] {0, 1, 1}, new int[] {1, 2, 1},
+                new int[] {2, 3, 1}, new int[] {3, 0, 5});
+        x.connect(1, 2, 20);
+        return x;
+    }
+
+    /** As above, but 1, too, asks of 0, and 2 has heard it. */
+    static DiffusingRoutes askedAndGrown() {
+        DiffusingRoutes x = askingRing();
+        x.connect(0, 1, 30);
+        Check.comes("1 asks of 2, 3 and 0", x, 1, 2, Check.QUERY, Check.QUERY, Check.QUERY);
+        Check.route("2 is asked and grown", x, 2, 0, 21, 2, 1, 4);
+        return x;
+    }
 }

@@ -1,10 +1,22 @@
 /** What the terms say of routes, seen through promises 7 to 12 and the messages. */
 public final class RouteTest {
+    /** No route in a network of three routers. */
+    private static final int[][] NO_ROUTE = {{-1, 0}, {0, -1}, {3, 0}, {0, 3}, {3, 3}, {-1, -1},
+        {Integer.MIN_VALUE, 0}, {0, Integer.MIN_VALUE}, {Integer.MAX_VALUE, 0},
+        {0, Integer.MAX_VALUE}};
+
     private RouteTest() {
     }
 
     public static void main(String[] args) {
-        wrongArgumentsAreNone();
+        distanceOfNobody();
+        limitOfNobody();
+        nextOfNobody();
+        stateOfNobody();
+        toldOfNobody();
+        toldByNoNeighbour();
+        waitsOfNobody();
+        waitsForNobody();
         routerItself();
         shortestWayIsFound();
         nextIsKeptAmongEquals();
@@ -24,31 +36,101 @@ public final class RouteTest {
         Check.finish();
     }
 
-    private static void wrongArgumentsAreNone() {
+    private static void distanceOfNobody() {
         DiffusingRoutes x = Networks.line(1, 1);
-        int[][] wrong = {{-1, 0}, {0, -1}, {3, 0}, {0, 3}, {3, 3}, {-1, -1},
-            {Integer.MIN_VALUE, 0}, {0, Integer.MAX_VALUE}};
-        for (int[] row : wrong) {
-            Check.route("wrong", x, row[0], row[1], Check.NONE, Check.NONE, Check.NONE, Check.NONE);
-            Check.due("wrong, told", Check.NONE, x.told(row[0], 1, row[1]));
-            Check.due("wrong, waits", false, x.waits(row[0], 1, row[1]));
-            Check.due("wrong neighbour, told", Check.NONE, x.told(row[0], row[1], 2));
-            Check.due("wrong neighbour, waits", false, x.waits(row[0], row[1], 2));
+        for (int[] row : NO_ROUTE) {
+            Check.due("distance of nobody", Check.NONE, x.distance(row[0], row[1]));
         }
-        Check.due("no neighbour", Check.NONE, x.told(0, 2, 1));
-        Check.due("its own neighbour", Check.NONE, x.told(1, 1, 0));
-        Check.due("nobody is waited for", false, x.waits(0, 1, 2));
-        Check.due("no neighbour is waited for", false, x.waits(0, 2, 1));
+        Check.due("the last one to the first one", 2, x.distance(2, 0));
+        Check.due("the first one to the last one", 2, x.distance(0, 2));
+    }
+
+    private static void limitOfNobody() {
+        DiffusingRoutes x = Networks.line(1, 1);
+        for (int[] row : NO_ROUTE) {
+            Check.due("limit of nobody", Check.NONE, x.limit(row[0], row[1]));
+        }
+        Check.due("the last one to the first one", 2, x.limit(2, 0));
+        Check.due("the first one to the last one", 2, x.limit(0, 2));
+    }
+
+    private static void nextOfNobody() {
+        DiffusingRoutes x = Networks.line(1, 1);
+        for (int[] row : NO_ROUTE) {
+            Check.due("next of nobody", Check.NONE, x.next(row[0], row[1]));
+        }
+        Check.due("the last one to the first one", 1, x.next(2, 0));
+        Check.due("the first one to the last one", 1, x.next(0, 2));
+        x.cut(0, 1);
+        Check.due("none any more", Check.NONE, x.next(0, 2));
+    }
+
+    private static void stateOfNobody() {
+        DiffusingRoutes x = Networks.line(1, 1);
+        for (int[] row : NO_ROUTE) {
+            Check.due("state of nobody", Check.NONE, x.state(row[0], row[1]));
+        }
+        Check.due("the last one to the first one", 0, x.state(2, 0));
+        Check.due("the first one to the last one", 0, x.state(0, 2));
+    }
+
+    private static void toldOfNobody() {
+        DiffusingRoutes x = Networks.line(1, 1);
+        for (int[] row : NO_ROUTE) {
+            Check.due("told of nobody", Check.NONE, x.told(row[0], 1, row[1]));
+        }
+        Check.due("the last one of the first one", 1, x.told(2, 1, 0));
+        Check.due("the first one of the last one", 1, x.told(0, 1, 2));
+    }
+
+    private static void toldByNoNeighbour() {
+        DiffusingRoutes x = Networks.line(1, 1);
+        for (int n : new int[] {-1, 3, Integer.MIN_VALUE, Integer.MAX_VALUE}) {
+            Check.due("told by nobody", Check.NONE, x.told(0, n, 2));
+        }
+        Check.due("without a link", Check.NONE, x.told(0, 2, 1));
+        Check.due("without a link, of itself", Check.NONE, x.told(0, 2, 2));
+        Check.due("by itself", Check.NONE, x.told(1, 1, 0));
+        x.cut(0, 1);
+        Check.due("no neighbour any more", Check.NONE, x.told(0, 1, 2));
+    }
+
+    private static void waitsOfNobody() {
+        DiffusingRoutes x = Networks.dearTriangle();
+        for (int[] row : NO_ROUTE) {
+            Check.due("nobody waits", false, x.waits(row[0], 0, row[1]));
+            Check.due("nobody waits", false, x.waits(row[0], 1, row[1]));
+            Check.due("nobody waits", false, x.waits(row[0], 2, row[1]));
+        }
+    }
+
+    private static void waitsForNobody() {
+        DiffusingRoutes x = Networks.dearTriangle();
+        Check.due("for a neighbour", true, x.waits(1, 0, 2));
+        for (int n : new int[] {-1, 3, Integer.MIN_VALUE, Integer.MAX_VALUE}) {
+            Check.due("for nobody", false, x.waits(1, n, 2));
+        }
+        Check.due("for itself", false, x.waits(1, 1, 2));
+        Check.due("a calm route", false, x.waits(2, 0, 0));
+        DiffusingRoutes y = Networks.line(1, 1, 1);
+        y.cut(0, 1);
+        Check.due("for its neighbour", true, y.waits(1, 2, 0));
+        Check.due("for one that is none any more", false, y.waits(1, 0, 0));
+        Check.due("for one that never was", false, y.waits(1, 3, 0));
     }
 
     private static void routerItself() {
         DiffusingRoutes x = Networks.line(1, 1);
         Check.route("itself", x, 1, 1, 0, 0, Check.NONE, 0);
         Check.due("told of itself", Check.NONE, x.told(1, 0, 1));
-        x.cut(0, 1);
-        x.connect(1, 2, 8);
-        Check.route("itself, later", x, 1, 1, 0, 0, Check.NONE, 0);
         Check.due("itself, waits", false, x.waits(1, 2, 1));
+        x.connect(1, 2, 8);
+        Check.route("itself, a dearer link", x, 1, 1, 0, 0, Check.NONE, 0);
+        x.cut(0, 1);
+        Check.route("itself, a link less", x, 1, 1, 0, 0, Check.NONE, 0);
+        Check.due("itself, waits", false, x.waits(1, 2, 1));
+        x.cut(2, 1);
+        Check.route("itself, alone", x, 1, 1, 0, 0, Check.NONE, 0);
     }
 
     private static void shortestWayIsFound() {
@@ -117,16 +199,8 @@ public final class RouteTest {
         Check.due("only 2 and 3 are farther", sent + 4, x.total(0));
     }
 
-    /** 0 - 1 - 2 with a dear link from 0 to 2; then the link from 1 to 2 becomes dear. */
-    private static DiffusingRoutes dearTriangle() {
-        DiffusingRoutes x = Networks.settled(3, new int[] {0, 1, 1}, new int[] {1, 2, 1},
-                new int[] {0, 2, 5});
-        x.connect(1, 2, 9);
-        return x;
-    }
-
     private static void askerIsAnsweredFirst() {
-        DiffusingRoutes x = dearTriangle();
+        DiffusingRoutes x = Networks.dearTriangle();
         Check.route("0 told no less than the limit", x, 1, 2, 9, 1, 2, 1);
         Check.due("0 is waited for", true, x.waits(1, 0, 2));
         Check.due("2 is waited for", true, x.waits(1, 2, 2));
@@ -197,7 +271,7 @@ public final class RouteTest {
     }
 
     private static void dearerLinkGrowsABusyRoute() {
-        DiffusingRoutes x = dearTriangle();
+        DiffusingRoutes x = Networks.dearTriangle();
         x.connect(0, 1, 50);
         Check.route("not the link to the next", x, 1, 2, 9, 1, 2, 1);
         x.connect(1, 2, 8);
@@ -210,16 +284,8 @@ public final class RouteTest {
         Check.route("once grown", x, 1, 2, 9, 1, 2, 2);
     }
 
-    /** The ring 0 - 1 - 2 - 3 - 0; then 2 asks because of its link to 1, through which it went. */
-    private static DiffusingRoutes askingRing() {
-        DiffusingRoutes x = Networks.settled(4, new int[] {0, 1, 1}, new int[] {1, 2, 1},
-                new int[] {2, 3, 1}, new int[] {3, 0, 5});
-        x.connect(1, 2, 20);
-        return x;
-    }
-
     private static void fartherNextGrowsABusyRoute() {
-        DiffusingRoutes x = askingRing();
+        DiffusingRoutes x = Networks.askingRing();
         Check.route("2 asks", x, 2, 0, 21, 2, 1, 1);
         Check.comes("1 asks of 2 and 3", x, 1, 2, Check.QUERY, Check.QUERY);
         x.connect(0, 1, 2);
@@ -229,7 +295,7 @@ public final class RouteTest {
     }
 
     private static void otherNeighboursDoNotGrowIt() {
-        DiffusingRoutes x = askingRing();
+        DiffusingRoutes x = Networks.askingRing();
         x.connect(3, 0, 100);
         Check.comes("2 asks of 0 and 1", x, 2, 3, Check.QUERY, Check.QUERY);
         Networks.deliverAll(x, 3, 2);
@@ -237,17 +303,8 @@ public final class RouteTest {
         Check.route("2 waits for 1", x, 2, 0, 21, 2, 1, 1);
     }
 
-    /** As above, but 1, too, asks of 0, and 2 has heard it. */
-    private static DiffusingRoutes askedAndGrown() {
-        DiffusingRoutes x = askingRing();
-        x.connect(0, 1, 30);
-        Check.comes("1 asks of 2, 3 and 0", x, 1, 2, Check.QUERY, Check.QUERY, Check.QUERY);
-        Check.route("2 is asked and grown", x, 2, 0, 21, 2, 1, 4);
-        return x;
-    }
-
     private static void grownRouteAsksAgain() {
-        DiffusingRoutes x = askedAndGrown();
+        DiffusingRoutes x = Networks.askedAndGrown();
         Networks.deliverAll(x, 2, 1);
         Networks.deliverAll(x, 2, 3);
         Check.route("3 goes by itself", x, 3, 0, 5, 3, 0, 0);
@@ -275,7 +332,7 @@ public final class RouteTest {
     }
 
     private static void lostNextIsNotAnswered() {
-        DiffusingRoutes x = askedAndGrown();
+        DiffusingRoutes x = Networks.askedAndGrown();
         x.cut(1, 2);
         Check.route("not asked any more", x, 2, 0, 21, 2, Check.NONE, 2);
         Check.due("1 is not waited for", false, x.waits(2, 1, 0));
@@ -298,7 +355,7 @@ public final class RouteTest {
     }
 
     private static void lastLinkEndsABusyRoute() {
-        DiffusingRoutes x = askedAndGrown();
+        DiffusingRoutes x = Networks.askedAndGrown();
         x.cut(1, 2);
         x.cut(2, 3);
         Check.route("grown, and alone", x, 2, 0, Check.FAR, Check.FAR, Check.NONE, 0);
