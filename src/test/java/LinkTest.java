@@ -198,6 +198,10 @@ public final class LinkTest {
         x.connect(1, 2, 1);
         Check.due("one each way is lost", 2, x.cut(1, 0));
         Check.due("the others stay", 2, x.total(3));
+        Check.message("one there", x, 1, 2, 0, Check.UPDATE, 1, 0);
+        Check.message("no more there", x, 1, 2, 1, Check.NONE, Check.NONE, Check.NONE);
+        Check.message("one back", x, 2, 1, 0, Check.UPDATE, 2, 0);
+        Check.message("no more back", x, 2, 1, 1, Check.NONE, Check.NONE, Check.NONE);
         Check.due("the link is gone", Check.NONE, x.cost(0, 1));
         Check.due("one link is left", 1, x.total(5));
         Check.due("0 has nothing to come", Check.NONE, x.flight(1, 0));
