@@ -26,6 +26,7 @@ public final class FaceTest {
         int shape = DiffusingRoutes.class.getModifiers();
         Check.due("public and final", true, Modifier.isPublic(shape) && Modifier.isFinal(shape));
         faceIsThatOfTheDocument();
+        privateMethodsHaveNamesOfTheirOwn();
         noCallThrows();
         Check.finish();
     }
@@ -52,6 +53,22 @@ public final class FaceTest {
         differing.addAll(FACE);
         differing.removeIf(member -> seen.contains(member) && FACE.contains(member));
         Check.due("members that differ " + differing, 0, differing.size());
+    }
+
+    /** Rule 1 of LANGUAGE.md. */
+    private static void privateMethodsHaveNamesOfTheirOwn() {
+        Set<String> names = new TreeSet<>();
+        for (Method method : DiffusingRoutes.class.getDeclaredMethods()) {
+            if (Modifier.isPublic(method.getModifiers())) {
+                names.add(method.getName());
+            }
+        }
+        for (Method method : DiffusingRoutes.class.getDeclaredMethods()) {
+            if (Modifier.isPrivate(method.getModifiers())) {
+                Check.due("a name used twice: " + method.getName(), false,
+                        names.contains(method.getName()));
+            }
+        }
     }
 
     private static String list(Class<?>[] types) {

@@ -1,5 +1,3 @@
-import java.lang.reflect.Field;
-
 /** Promise 15 (hops). */
 public final class HopsTest {
     private HopsTest() {
@@ -47,31 +45,13 @@ public final class HopsTest {
     private static void hopsEndInARing() throws ReflectiveOperationException {
         DiffusingRoutes x = Networks.line(1, 1, 1, 1, 1);
         Check.due("all of them, no ring", 5, x.hops(5, 0));
-        setNext(x, 1, 0, 5);
+        Inside.setNext(x, 1, 0, 5);
         Check.due("a ring of five", Check.NONE, x.hops(5, 0));
-        setNext(x, 1, 0, 2);
+        Inside.setNext(x, 1, 0, 2);
         Check.due("a ring of two", Check.NONE, x.hops(1, 0));
         Check.due("a way into a ring", Check.NONE, x.hops(5, 0));
         Check.due("the target", 0, x.hops(0, 0));
         Check.due("another target", 1, x.hops(0, 1));
-    }
-
-    private static void setNext(DiffusingRoutes x, int router, int target, int next)
-            throws ReflectiveOperationException {
-        Object[] routes = (Object[]) field(x, "routes").get(x);
-        for (Object route : routes) {
-            if (field(route, "router").getInt(route) == router
-                    && field(route, "target").getInt(route) == target) {
-                field(route, "next").setInt(route, next);
-            }
-        }
-        Check.due("the next that was set", next, x.next(router, target));
-    }
-
-    private static Field field(Object owner, String name) throws ReflectiveOperationException {
-        Field field = owner.getClass().getDeclaredField(name);
-        field.setAccessible(true);
-        return field;
     }
 
     private static void hopsWithWrongArguments() {

@@ -3,9 +3,10 @@ public final class LookEdgesTest {
     private LookEdgesTest() {
     }
 
-    public static void main(String[] args) {
+    public static void main(String[] args) throws ReflectiveOperationException {
         allIsFarAtFirst();
         noSumIsMoreThanFar();
+        sumsEndAtFar();
         throughOneThatIsGoneItIsFar();
         updateOfTheRouterItself();
         queryOfTheRouterItself();
@@ -50,6 +51,33 @@ public final class LookEdgesTest {
         Check.route("never farther", x, 2, 0, Check.FAR, 200, 1, 3);
         x.run(200);
         Check.route("in the end", x, 2, 0, Check.FAR, Check.FAR, Check.NONE, 0);
+    }
+
+    /**
+     * "no sum is more", with a told distance that is not FAR itself. No run of calls was seen to
+     * tell so much, so it is set from outside; the same link then costs more and less.
+     */
+    private static void sumsEndAtFar() throws ReflectiveOperationException {
+        DiffusingRoutes x = new DiffusingRoutes(3);
+        x.connect(0, 1, 50);
+        x.run(200);
+        Inside.setTold(x, 0, 1, 2, 9950);
+        x.connect(0, 1, 50);
+        Check.route("FAR by the sum", x, 0, 2, Check.FAR, Check.FAR, Check.NONE, 0);
+        x.connect(0, 1, 51);
+        Check.route("no more than FAR", x, 0, 2, Check.FAR, Check.FAR, Check.NONE, 0);
+        Check.due("1 is told of the way to 1 alone", 1, x.flight(0, 1));
+        Check.message("of 1", x, 0, 1, 0, Check.UPDATE, 1, 51);
+        x.run(200);
+        x.connect(0, 1, 49);
+        Check.route("one less than FAR", x, 0, 2, 9999, 9999, 1, 0);
+        Check.message("that is told", x, 0, 1, 1, Check.UPDATE, 2, 9999);
+        x.run(200);
+        Check.due("what 1 was told", 9999, x.told(1, 0, 2));
+        Check.route("for 1 it is FAR", x, 1, 2, Check.FAR, Check.FAR, Check.NONE, 0);
+        x.connect(0, 1, 100);
+        Check.route("FAR through its next", x, 0, 2, Check.FAR, 9999, 1, 1);
+        Check.message("it asks", x, 0, 1, 1, Check.QUERY, 2, Check.FAR);
     }
 
     /** "FAR if there is none (any more)"; "FAR without one". */
